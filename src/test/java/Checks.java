@@ -51,8 +51,15 @@ final class Checks {
         try {
             return call.answer();
         } catch (Exception e) {
-            return e.getClass();
+            return thrown(e);
         }
+    }
+
+    /** The class of what a throw statement of the program threw; the machine and its library must throw nothing. */
+    static Object thrown(Throwable thrown) {
+        StackTraceElement[] frames = thrown.getStackTrace();
+        boolean isOwn = frames.length > 0 && frames[0].getClassName().startsWith("TicketWeaver");
+        return isOwn ? thrown.getClass() : "the machine's " + thrown;
     }
 
     boolean isAllPassed() {

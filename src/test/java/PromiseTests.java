@@ -1,3 +1,6 @@
+import java.lang.reflect.Field;
+import java.util.Collections;
+import java.util.List;
 import java.util.NoSuchElementException;
 
 /** For each promise of the document: ordinary inputs, the edges that it names, and wrong inputs. */
@@ -74,6 +77,8 @@ final class PromiseTests {
         c.test("promise 41", this::keptShare);
         c.test("promise 42", this::meanClock);
         c.test("promise 43", this::isSound);
+        c.test("promise 43, mails that are not in one ticket", this::isNotSoundByMails);
+        c.test("promise 43, queues that are wrong", this::isNotSoundByQueues);
     }
 
     private interface Ask {
@@ -478,6 +483,13 @@ final class PromiseTests {
         c.dueThrow(ARGUMENT, () -> x.setTopic(0, 6));
         c.dueThrow(ARGUMENT, () -> x.setTopic(0, -1));
         c.due(2, x.setTopic(0, 2));
+        // A waiting ticket waits for its new topic only.
+        c.due(1, x.nextFor(0));
+        c.due(0, x.setTopic(1, 3));
+        c.due(0, x.waiting(0));
+        c.dueThrow(NONE, () -> x.nextFor(0));
+        c.due(3, x.setTopic(1, 0));
+        c.due(1, x.waiting(0));
         x.merge(0, 1);
         c.dueThrow(STATE, () -> x.setTopic(0, 1));
         c.dueThrow(ARGUMENT, () -> x.setTopic(0, 6));
@@ -755,6 +767,15 @@ final class PromiseTests {
         c.due(3, next.of(x, 0));
         x.setTopic(3, 0);
         c.due(3, next.of(x, 0));
+        // Two classes in the queue of one topic.
+        TicketWeaver y = deskWith(1, 1);
+        y.mail(1, 0, -1, 0, 0);
+        y.setClass(1, 2);
+        c.due(1, next.of(y, 0));
+        y.setPromise(2, 241);
+        c.due(0, next.of(y, 0));
+        y.setPromise(0, 242);
+        c.due(1, next.of(y, 0));
     }
 
     private void waiting() {
@@ -975,6 +996,8 @@ final class PromiseTests {
         // The words go along.
         x.addAnswer(0b0010);
         c.due(0, x.suggestion(1));
+        x.addAnswer(0b0110);
+        c.due(1, x.suggestion(1));
         c.dueThrow(NONE, () -> x.suggestion(0));
         c.dueThrow(NONE, () -> x.suggestionByWords(0));
         // A held one can be merged, and be the other one; the other one stays what it is.
@@ -1276,5 +1299,61 @@ final class PromiseTests {
         y.setClass(0, 2);
         y.merge(0, 1);
         c.due(true, y.isSound());
+    }
+
+    // No call leads to a desk that is not sound: these tests reach inside and spoil it.
+
+    private static Object inside(Object of, String name) throws Exception {
+        Field field = of.getClass().getDeclaredField(name);
+        field.setAccessible(true);
+        return field.get(of);
+    }
+
+    @SuppressWarnings("unchecked")
+    private static List<Object> mailsInside(TicketWeaver x, int ticket) throws Exception {
+        return (List<Object>) inside(((List<?>) inside(x, "tickets")).get(ticket), "mails");
+    }
+
+    private static List<?> lineInside(TicketWeaver x, int topic) throws Exception {
+        return (List<?>) inside(((Object[]) inside(x, "queues"))[topic], "line");
+    }
+
+    private void isNotSoundByMails() throws Exception {
+        TicketWeaver none = deskWith(0, 2);
+        mailsInside(none, 1).clear();
+        c.due(false, none.isSound());
+        TicketWeaver ofTwo = deskWith(0, 2);
+        mailsInside(ofTwo, 1).add(0, mailsInside(ofTwo, 0).get(0));
+        c.due(false, ofTwo.isSound());
+        TicketWeaver ofAnother = deskWith(0, 2);
+        mailsInside(ofAnother, 1).set(0, mailsInside(ofAnother, 0).remove(0));
+        c.due(false, ofAnother.isSound());
+        TicketWeaver swapped = deskWith(0, 2);
+        mailsInside(swapped, 0).add(mailsInside(swapped, 1).remove(0));
+        mailsInside(swapped, 1).add(mailsInside(swapped, 0).remove(0));
+        c.due(false, swapped.isSound());
+        TicketWeaver twice = deskWith(0, 2);
+        mailsInside(twice, 0).add(mailsInside(twice, 0).get(0));
+        mailsInside(twice, 1).clear();
+        c.due(false, twice.isSound());
+        TicketWeaver ofMerged = deskWith(0, 2);
+        ofMerged.merge(0, 1);
+        mailsInside(ofMerged, 0).add(mailsInside(ofMerged, 1).remove(0));
+        c.due(false, ofMerged.isSound());
+    }
+
+    private void isNotSoundByQueues() throws Exception {
+        TicketWeaver x = deskWith(1, 3);
+        lineInside(x, 0).clear();
+        c.due(false, x.isSound());
+        TicketWeaver y = deskWith(1, 3);
+        Collections.reverse(lineInside(y, 0));
+        c.due(false, y.isSound());
+        y.setOnShift(0, false);
+        c.due(true, y.isSound());
+        y.addAgent(1);
+        c.due(true, y.isSound());
+        y.setOnShift(1, true);
+        c.due(false, y.isSound());
     }
 }

@@ -105,7 +105,7 @@ final class RandomRuns {
         try {
             return method.invoke(target, arguments);
         } catch (InvocationTargetException e) {
-            return e.getCause().getClass();
+            return target instanceof TicketWeaver ? Checks.thrown(e.getCause()) : e.getCause().getClass();
         }
     }
 
