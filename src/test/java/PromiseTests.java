@@ -1,24 +1,7 @@
-import java.lang.reflect.Field;
-import java.util.Collections;
-import java.util.List;
-import java.util.NoSuchElementException;
-
 /** For each promise of the document: ordinary inputs, the edges that it names, and wrong inputs. */
-final class PromiseTests {
-    private static final Class<IllegalArgumentException> ARGUMENT = IllegalArgumentException.class;
-    private static final Class<IllegalStateException> STATE = IllegalStateException.class;
-    private static final Class<NoSuchElementException> NONE = NoSuchElementException.class;
-    private static final Class<IndexOutOfBoundsException> INDEX = IndexOutOfBoundsException.class;
-    private static final Class<UnsupportedOperationException> UNSUPPORTED = UnsupportedOperationException.class;
-    private static final Class<ArithmeticException> ARITHMETIC = ArithmeticException.class;
-    private static final int LOW = Integer.MIN_VALUE;
-    private static final int HIGH = Integer.MAX_VALUE;
-    private static final int ALL_SKILLS = 63;
-
-    private final Checks c;
-
+final class PromiseTests extends DeskTests {
     PromiseTests(Checks checks) {
-        c = checks;
+        super(checks);
     }
 
     void run() {
@@ -77,42 +60,6 @@ final class PromiseTests {
         c.test("promise 41", this::keptShare);
         c.test("promise 42", this::meanClock);
         c.test("promise 43", this::isSound);
-        c.test("promise 43, mails that are not in one ticket", this::isNotSoundByMails);
-        c.test("promise 43, queues that are wrong", this::isNotSoundByQueues);
-    }
-
-    private interface Ask {
-        int of(TicketWeaver desk, int number);
-    }
-
-    /** A desk with agents on shift who have all skills. */
-    private static TicketWeaver deskWith(int agents) {
-        TicketWeaver x = new TicketWeaver();
-        for (int i = 0; i < agents; i++) {
-            x.addAgent(ALL_SKILLS);
-            x.setOnShift(i, true);
-        }
-        return x;
-    }
-
-    /** Customer 0 writes mails of different subjects: as many tickets of topic 0. */
-    private static TicketWeaver deskWith(int agents, int tickets) {
-        TicketWeaver x = deskWith(agents);
-        for (int i = 0; i < tickets; i++) {
-            x.mail(0, i, -1, 0, 0);
-        }
-        return x;
-    }
-
-    private static void answerNext(TicketWeaver x, int prepared) {
-        x.answer(x.take(0), prepared);
-    }
-
-    private void noTicket(TicketWeaver x, int beyond, Ask call) {
-        c.dueThrow(INDEX, () -> call.of(x, -1));
-        c.dueThrow(INDEX, () -> call.of(x, beyond));
-        c.dueThrow(INDEX, () -> call.of(x, HIGH));
-        c.dueThrow(INDEX, () -> call.of(x, LOW));
     }
 
     private void newObject() {
@@ -263,19 +210,6 @@ final class PromiseTests {
         y.close(0);
         waitFor(y, 1440);
         c.due(0, y.mail(0, 0, -1, 0, 0));
-    }
-
-    private static void waitFor(TicketWeaver x, int minutes) {
-        for (int left = minutes; left > 0; left -= 600) {
-            x.pass(Math.min(left, 600));
-        }
-    }
-
-    private static void closeNextAndWait(TicketWeaver x, int minutes) {
-        int ticket = x.take(0);
-        x.answer(ticket, -1);
-        x.close(ticket);
-        waitFor(x, minutes);
     }
 
     private void mailBeginsAnew() {
@@ -498,28 +432,6 @@ final class PromiseTests {
         x.close(1);
         c.dueThrow(STATE, () -> x.setTopic(1, 1));
         noTicket(x, 2, (desk, ticket) -> desk.setTopic(ticket, 6));
-    }
-
-    /** Tickets 0 to 4, in the states 'o', 'h', 'a', 'c' and 'm', with the clock 7. */
-    private static TicketWeaver deskOfAllStates() {
-        TicketWeaver x = new TicketWeaver();
-        x.addAgent(1);
-        x.setOnShift(0, true);
-        for (int i = 0; i < 5; i++) {
-            x.mail(0, i, -1, 0, 0);
-        }
-        x.pass(7);
-        x.merge(4, 1);
-        x.take(0);
-        x.take(0);
-        x.take(0);
-        x.answer(2, -1);
-        x.hold(1);
-        x.giveBack(1);
-        x.take(0);
-        x.answer(3, -1);
-        x.close(3);
-        return x;
     }
 
     private void openOrHeldOnly(Ask call) {
@@ -1299,61 +1211,5 @@ final class PromiseTests {
         y.setClass(0, 2);
         y.merge(0, 1);
         c.due(true, y.isSound());
-    }
-
-    // No call leads to a desk that is not sound: these tests reach inside and spoil it.
-
-    private static Object inside(Object of, String name) throws Exception {
-        Field field = of.getClass().getDeclaredField(name);
-        field.setAccessible(true);
-        return field.get(of);
-    }
-
-    @SuppressWarnings("unchecked")
-    private static List<Object> mailsInside(TicketWeaver x, int ticket) throws Exception {
-        return (List<Object>) inside(((List<?>) inside(x, "tickets")).get(ticket), "mails");
-    }
-
-    private static List<?> lineInside(TicketWeaver x, int topic) throws Exception {
-        return (List<?>) inside(((Object[]) inside(x, "queues"))[topic], "line");
-    }
-
-    private void isNotSoundByMails() throws Exception {
-        TicketWeaver none = deskWith(0, 2);
-        mailsInside(none, 1).clear();
-        c.due(false, none.isSound());
-        TicketWeaver ofTwo = deskWith(0, 2);
-        mailsInside(ofTwo, 1).add(0, mailsInside(ofTwo, 0).get(0));
-        c.due(false, ofTwo.isSound());
-        TicketWeaver ofAnother = deskWith(0, 2);
-        mailsInside(ofAnother, 1).set(0, mailsInside(ofAnother, 0).remove(0));
-        c.due(false, ofAnother.isSound());
-        TicketWeaver swapped = deskWith(0, 2);
-        mailsInside(swapped, 0).add(mailsInside(swapped, 1).remove(0));
-        mailsInside(swapped, 1).add(mailsInside(swapped, 0).remove(0));
-        c.due(false, swapped.isSound());
-        TicketWeaver twice = deskWith(0, 2);
-        mailsInside(twice, 0).add(mailsInside(twice, 0).get(0));
-        mailsInside(twice, 1).clear();
-        c.due(false, twice.isSound());
-        TicketWeaver ofMerged = deskWith(0, 2);
-        ofMerged.merge(0, 1);
-        mailsInside(ofMerged, 0).add(mailsInside(ofMerged, 1).remove(0));
-        c.due(false, ofMerged.isSound());
-    }
-
-    private void isNotSoundByQueues() throws Exception {
-        TicketWeaver x = deskWith(1, 3);
-        lineInside(x, 0).clear();
-        c.due(false, x.isSound());
-        TicketWeaver y = deskWith(1, 3);
-        Collections.reverse(lineInside(y, 0));
-        c.due(false, y.isSound());
-        y.setOnShift(0, false);
-        c.due(true, y.isSound());
-        y.addAgent(1);
-        c.due(true, y.isSound());
-        y.setOnShift(1, true);
-        c.due(false, y.isSound());
     }
 }
