@@ -8,6 +8,7 @@ public final class AllTests {
         new PromiseTests(checks).run();
         bounds(checks, new Document(shared.resolve("DOC.md")));
         new FaceTests(checks).run(shared);
+        new ReadmeTests(checks).run();
         RandomRuns runs = new RandomRuns();
         checks.test("random runs", () -> checks.due("", runs.firstDifference()));
         checks.test("random runs come to all that the document lists", () -> checks.due("[]", "" + runs.unseen()));

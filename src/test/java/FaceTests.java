@@ -103,7 +103,8 @@ final class FaceTests {
         }
         String code = text.replaceAll("(?s)/\\*.*?\\*/", "").replaceAll("//.*", "");
         for (String barred : BARRED) {
-            checks.due(barred + ": none", barred + ": " + (Pattern.compile(barred).matcher(code).find() ? "some" : "none"));
+            String found = Pattern.compile(barred).matcher(code).find() ? "some" : "none";
+            checks.due(barred + ": none", barred + ": " + found);
         }
     }
 }
